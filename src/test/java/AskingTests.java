@@ -36,6 +36,7 @@ public final class AskingTests {
         promises28And29();
         promise30();
         promise31();
+        oneComer();
         promise32();
         promise33();
         promise34();
@@ -215,6 +216,10 @@ public final class AskingTests {
         due("26: way", x.righted(7, 1), -1001);
         due("26: way", x.righted(-1, 2), -1001);
         Checks.refused(x, 2, 0, 0, 0, 0, 3, 0);
+        x.change(0, 0, 0);
+        x.change(2, 5, 0);
+        due("26: the first two, SUMS 10 and 12", x.righted(0, 2), 1);
+        due("26: the first two, SUMS 10 and 12", x.righted(3, 2), -1);
         due("26: by slips", drawnHouse().righted(0, 2), 0);
     }
 
@@ -266,7 +271,19 @@ public final class AskingTests {
         Checks.read(y, "asker 0 0 0;comer 1 0 0 0 0 5;comer 2 0 0 4 0 0;comer 3 0 0 1 0 4;way 0 0;way 5 0", 6);
         due("28: 10 to 0", y.joined(0, 1, 10), 1);
         due("28: 0 to 10", y.joined(0, 1, 0), -1);
-        due("29: 6 and 4: 60, 72, 66 of 3 each", y.weights(0, 1), 6);
+        due("29: 0, 120, 30 and 150, 0, 120 are 600, 720, 660 by 6", y.weights(0, 1), 6);
+        weighs(10, "comer 1 0 0 0 0 9;comer 2 0 0 1 0 0;comer 3 0 0 2 0 0");
+        weighs(1, "comer 1 0 0 0 0 5;comer 2 0 0 1 0 5;comer 3 0 0 2 0 5");
+        weighs(0, "comer 1 0 0 0 0 0;comer 2 0 0 1 0 1;comer 3 0 0 2 0 2");
+        weighs(10, "comer 1 0 0 5 0 9;comer 2 0 0 5 0 5;comer 3 0 0 5 0 0");
+        weighs(0, "comer 1 0 0 9 0 9;comer 2 0 0 5 0 5;comer 3 0 0 0 0 0");
+    }
+
+    /** The x between LOOKS and MARKS, for one ASKER without BONUS. */
+    private static void weighs(int x, String comers) {
+        FourAskOne y = new FourAskOne();
+        Checks.read(y, comers + ";asker 0 0 0;way 0 0;way 5 0", 6);
+        due("29: " + comers, y.weights(0, 1), x);
     }
 
     private static void promise30() {
@@ -309,11 +326,27 @@ public final class AskingTests {
         y.change(1, 3, 4);
         y.change(0, 4, 2);
         due("31: by what is shown alone", y.agree(0), 1);
+        FourAskOne z = new FourAskOne();
+        Checks.read(z, "comer 0 0 0 5 1 0;comer 0 0 0 5 2 0;asker 2 9 0;asker 1 9 10;asker 1 9 10;way 0 0", 6);
+        due("31: by slips the first would be taken, and two agree", z.agree(0), 1);
         y.clear();
         due("31: no comers", y.agree(0), -5);
         due("31: way", y.agree(1), -1);
         due("31: way", y.agree(-1), -1);
         Checks.refused(y, 2, 0, 0, 0, 1, 0, 0);
+    }
+
+    /** Promises 23, 24, 31 and 32 with one COMER alone. */
+    private static void oneComer() {
+        FourAskOne x = new FourAskOne();
+        Checks.read(x, "comer 1 2 3 4 1 6;way 0 0;asker 0 0 0", 3);
+        due("23: one comer", x.taken(0, false), 0);
+        due("24: one comer", x.best(), 0);
+        due("25: one comer", x.tells(0, false), 0);
+        due("31: one comer", x.agree(0), 1);
+        due("32: one comer", x.wrong(0, true), 0);
+        due("33: one comer", x.lost(0, 1), 0);
+        due("34: one comer", x.turned(0), 1);
     }
 
     private static void promise32() {

@@ -304,6 +304,7 @@ public final class HouseTests {
         Checks.readFault(x, "way 0 5 ;way 0 5", 7);
         Checks.readFault(x, "way 0 5 ", 7);
         Checks.readFault(x, "way 0 5way", 7);
+        Checks.readFault(x, "way 0 5wax", 7);
         Checks.readFault(x, "way 0\t5", 5);
         x.row(7, 0, 3);
         due("19: elements 0", x.house(7), -6);

@@ -144,6 +144,11 @@ public final class ShelfTests {
         due("5: the highest bit is the sign", x.element(0, 1), -56);
         due("5", x.element(0, 2), 0);
         due("5", x.element(0, -1), 0);
+        due("5", x.element(0, Integer.MAX_VALUE), 0);
+        x.row(3, 3, 160);
+        x.set(3, 159, -7);
+        due("5: the last of all", x.element(3, 159), -7);
+        due("5: behind the last of all", x.element(3, 160), 0);
         due("5: way", x.element(1, 0), 0);
         due("5: nothing", x.element(2, 0), 0);
         due("5: shelf", x.element(8, 0), 0);
@@ -217,6 +222,8 @@ public final class ShelfTests {
         x.show(0, 4);
         x.change(2, 2, 0);
         due("8: letters, of sums 12, 12, 9", x.says(0, 4), 3);
+        x.change(2, 2, 4);
+        due("8: letters, of sums 12, 12, 13", x.says(0, 4), 2);
         x.clear();
         due("8: letters of nobody", x.says(0, 4), 0);
         x.show(0, 5);

@@ -152,6 +152,11 @@ public final class StateTests {
         acted(x, 3, 1, most, 6, 40, 11, 10);
         acted(x, 5, 0, least, 10, 60, 10);
         acted(x, 6, 1, least, -372, 71, 11, 60, 10);
+        acted(x, 6, 2, 0, 463, 70, 12, 71, 11, 60, 10, 60, 10);
+        FourAskOne y = new FourAskOne();
+        Checks.read(y, "way 6 3", 1);
+        acted(y, 0, 2, 5, 9, 70, 12, 71, 11, 60, 10, 60, 10);
+        acted(y, 0, 2, 4, 3, 70, 12, 71, 11, 60, 10, 60, 10);
     }
 
     private static void promise44() {
@@ -238,10 +243,14 @@ public final class StateTests {
         FourAskOne y = new FourAskOne();
         y.image();
         y.way(0, 1);
-        y.show(5, 0);
+        for (int s = 0; s < 8; s++) {
+            y.show(s, 0);
+        }
         y.restore();
         y.way(6, 2);
-        due("46: nothing", y.holds(5), -1);
+        for (int s = 0; s < 8; s++) {
+            due("46: nothing", y.holds(s), -1);
+        }
         due("46: the new way", y.wayOf(0, 1), 2);
     }
 
@@ -257,6 +266,9 @@ public final class StateTests {
         }
         x.chief(2);
         due("47: first", x.status(4), 2);
+        FourAskOne y = new FourAskOne();
+        y.asker(0, 0, 0);
+        due("47: the only one", y.status(4), 0);
     }
 
     private static void promise47Refusals() {
