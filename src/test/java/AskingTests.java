@@ -432,6 +432,16 @@ public final class AskingTests {
         x.change(0, 0, 0);
         x.change(0, 2, 8);
         due("35: SUMS 12, 12, 17: 1, 0, 1", x.piece(), 0);
+        pieceIs(1, "comer 5 0 0 0 0 0;comer 2 2 2 9 0 9", 2);
+        pieceIs(0, "comer 1 1 1 0 0 0;comer 2 2 2 9 0 9", 2);
+        // the LOOKS and MARKS tell 3, the LINES -2, 0, 2
+        pieceIs(2, "comer 3 0 0 1 0 1;comer 0 4 0 2 0 2;comer 0 0 5 3 0 3", 3);
+    }
+
+    private static void pieceIs(int piece, String comers, int count) {
+        FourAskOne x = new FourAskOne();
+        Checks.read(x, comers, count);
+        due("35: " + comers, x.piece(), piece);
     }
 
     private static void promises36And37() {

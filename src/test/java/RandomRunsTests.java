@@ -2,6 +2,8 @@
 public final class RandomRunsTests {
     private static final int RUNS = 3000;
     private static final int CALLS = 512;
+    /** At the end of a run: the last call may be one of several calls, and status() is asked throughout. */
+    private static final int ROOM_AT_END = 36;
 
     private long state;
     private FourAskOne x;
@@ -23,11 +25,12 @@ public final class RandomRunsTests {
         state = run * 7919L + 17;
         x = new FourAskOne();
         m = new Model();
-        // some runs keep COMERS, some have them come and go, some read HOUSES mostly
+        // a third of the runs reads HOUSES mostly
         int readsPerTen = run % 3 == 0 ? 6 : 1;
         int calls = 0;
-        while (calls < CALLS) {
-            calls += below(10) < readsPerTen ? text(run, CALLS - calls) : call(run);
+        int most = CALLS - ROOM_AT_END;
+        while (calls < most) {
+            calls += below(10) < readsPerTen ? text(run, most - calls) : call(run);
         }
         for (int what = 0; what < 18; what++) {
             same(run, "status(" + what + ")", x.status(what), m.status(what));
@@ -84,8 +87,9 @@ public final class RandomRunsTests {
             return rows(run, which);
         }
         if (which < 20) {
-            make(run, which);
-        } else if (which < 36) {
+            return make(run, which);
+        }
+        if (which < 36) {
             ask(run, which);
         } else {
             more(run, which);
@@ -139,6 +143,9 @@ public final class RandomRunsTests {
     }
 
     private int ranking(int run) {
+        int any = about(8);
+        same(run, "judge", x.judge(any), m.judge(any));
+        same(run, "told", x.told(any), m.told(any));
         int n = Math.max(0, m.status(0) + (below(6) == 0 ? below(3) - 1 : 0));
         int[] values = new int[n];
         for (int i = 0; i < n; i++) {
@@ -153,7 +160,7 @@ public final class RandomRunsTests {
         int calls = fill(run, s, below(4), values);
         same(run, "judge", x.judge(s), m.judge(s));
         same(run, "told", x.told(s), m.told(s));
-        return calls + 2;
+        return calls + 4;
     }
 
     private int comerRow(int run) {
@@ -168,7 +175,7 @@ public final class RandomRunsTests {
         return calls + 1;
     }
 
-    private void make(int run, int which) {
+    private int make(int run, int which) {
         int comer = comers();
         int asker = askers();
         int way = ways();
@@ -208,11 +215,22 @@ public final class RandomRunsTests {
                 same(run, "chief", x.chief(asker), m.chief(asker));
                 break;
             default:
-                int s = about(8);
-                int kind = about(7);
-                same(run, "says(" + s + ", " + kind + ")", x.says(s, kind), m.says(s, kind));
-                break;
+                says(run, about(8), way);
+                return 3;
         }
+        return 1;
+    }
+
+    /** Half the time of a WAY put there ahead, and then mostly as of its own KIND. */
+    private void says(int run, int s, int way) {
+        int kind = about(7);
+        if (below(2) == 0) {
+            same(run, "show", x.show(s, way), m.show(s, way));
+            int own = m.wayOf(way, 0);
+            same(run, "wayOf", x.wayOf(way, 0), own);
+            kind = own < 0 || below(4) == 0 ? kind : own;
+        }
+        same(run, "says(" + s + ", " + kind + ")", x.says(s, kind), m.says(s, kind));
     }
 
     private void ask(int run, int which) {

@@ -61,6 +61,7 @@ public final class ShelfTests {
         x.show(0, 0);
         due("2", x.row(0, 1, 1), 1);
         due("2", x.holds(0), 101);
+        due("2: a row alone", x.copy(0, 0, 0, 0, 1), 1);
     }
 
     private static void promise3() {
@@ -173,7 +174,7 @@ public final class ShelfTests {
         due("6", x.holds(0), -1);
         due("6: nothing", x.show(7, -1), 0);
         due("6", x.holds(7), -1);
-        x.row(0, 0, 1);
+        Checks.row(x, 0, 0, 9);
         due("6: in place of a row", x.show(0, 0), 1);
         due("6", x.holds(0), 0);
         due("6", x.element(0, 0), 0);
