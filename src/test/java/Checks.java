@@ -1,7 +1,17 @@
+import java.io.IOException;
+import java.nio.file.Files;
+import java.nio.file.Path;
+import java.util.TreeSet;
+
 /** What the tests share: rows put into SHELVES, a small house, and a count of wrong answers. */
 final class Checks {
+    private static final Path DOCUMENT = Path.of("../shared/DOC.md");
+
     private static int asked = 0;
     private static int wrong = 0;
+    private static String document = "";
+    private static String sentence = "";
+    private static final TreeSet<String> sections = new TreeSet<>();
 
     private Checks() {
     }
@@ -10,8 +20,39 @@ final class Checks {
         asked++;
         if (got != want) {
             wrong++;
-            System.out.println(what + " answered " + got + ", due is " + want);
+            System.out.println(sentence + what + " answered " + got + ", due is " + want);
         }
+    }
+
+    /** The words of the document that the answers behind this are due to: they must stand in that section of it. */
+    static void sentence(String section, String words) {
+        sections.add(section);
+        sentence = "[" + section + ": " + words + "] ";
+        asked++;
+        if (!sectionOf(section).contains(words)) {
+            wrong++;
+            System.out.println(sentence + "does not stand in the document");
+        }
+    }
+
+    static void promise(int number, String words) {
+        sentence("Promise " + number, words);
+    }
+
+    static boolean hasPromise(int number) {
+        return sections.contains("Promise " + number);
+    }
+
+    private static String sectionOf(String section) {
+        if (document.isEmpty()) {
+            try {
+                document = Files.readString(DOCUMENT).replaceAll("\\s+", " ") + " ## ";
+            } catch (IOException missing) {
+                throw new IllegalStateException(missing);
+            }
+        }
+        int start = document.indexOf("## " + section + (section.startsWith("Promise") ? ":" : " "));
+        return start < 0 ? "" : document.substring(start, document.indexOf(" ## ", start));
     }
 
     static void end() {
@@ -26,6 +67,15 @@ final class Checks {
         for (int i = 0; i < values.length; i++) {
             due("set", x.set(s, i, values[i]), 1);
         }
+    }
+
+    /** A COMER by SHELF 6: the number. */
+    static int comer(FourAskOne x, int... six) {
+        x.row(6, 2, six.length);
+        for (int i = 0; i < six.length; i++) {
+            x.set(6, i, six[i]);
+        }
+        return x.comer(6, 0);
     }
 
     static void letters(FourAskOne x, int s, String text) {
@@ -90,7 +140,7 @@ final class Checks {
         asked++;
         if (!got.equals(want)) {
             wrong++;
-            System.out.println(what + ": " + got + "\n  due is " + want);
+            System.out.println(sentence + what + ": " + got + "\n  due is " + want);
         }
     }
 }

@@ -13,6 +13,7 @@ public final class HouseTests {
         promise17();
         promise18();
         promise18Nothing();
+        promise18NothingLeft();
         promise18Refused();
         promise19Letters();
         promise19Numbers();
@@ -258,6 +259,11 @@ public final class HouseTests {
         String was = Checks.seen(x);
         Checks.readFault(x, "comer 1 1 1 1 1 1;asker 1 1 1;way 1 1;chief 3;chief 4", 52);
         Checks.same("18: all or nothing", Checks.seen(x), was);
+    }
+
+    private static void promise18NothingLeft() {
+        FourAskOne x = Checks.smallHouse();
+        String was = Checks.seen(x);
         Checks.readFault(x, "chief 2;asker 1 1 1;", 20);
         Checks.same("18: all or nothing", Checks.seen(x), was);
         Checks.read(x, "way 1 1", 1);
@@ -278,67 +284,79 @@ public final class HouseTests {
         Checks.refused(x, 2, 1, 1, 0, 0, 2, 0);
     }
 
+    private static FourAskOne withAskers() {
+        FourAskOne x = new FourAskOne();
+        for (int n = 0; n < 3; n++) {
+            x.asker(n, n, n);
+        }
+        return x;
+    }
+
+    private static void fault(String text, int place) {
+        Checks.readFault(withAskers(), text, place);
+    }
+
     private static void promise19Letters() {
-        FourAskOne x = Checks.smallHouse();
         String[] words = {"comer", "asker", "way", "chief"};
         for (String word : words) {
             for (int n = 1; n <= word.length(); n++) {
                 String start = word.substring(0, n);
-                Checks.readFault(x, start, n);
-                Checks.readFault(x, start + "?", n);
-                Checks.readFault(x, start + ";", n);
-                Checks.readFault(x, "chief 0;" + start, n + 8);
+                fault(start, n);
+                fault(start + "?", n);
+                fault(start + ";", n);
+                fault("chief 0;" + start, n + 8);
             }
-            Checks.readFault(x, " " + word, 0);
-            Checks.readFault(x, word + " ", word.length() + 1);
-            Checks.readFault(x, word + " ;", word.length() + 1);
-            Checks.readFault(x, word + "  0", word.length() + 1);
+            fault(" " + word, 0);
+            fault(word + " ", word.length() + 1);
+            fault(word + " ;", word.length() + 1);
+            fault(word + "  0", word.length() + 1);
         }
-        Checks.readFault(x, "c", 1);
-        Checks.readFault(x, "ca", 1);
-        Checks.readFault(x, "cho", 2);
-        Checks.readFault(x, "COMER 1 1 1 1 1 1", 0);
-        Checks.readFault(x, "way 0 5;", 8);
-        Checks.readFault(x, "way 0 5;;way 0 5", 8);
-        Checks.readFault(x, "way 0 5; way 0 5", 8);
-        Checks.readFault(x, "way 0 5 ;way 0 5", 7);
-        Checks.readFault(x, "way 0 5 ", 7);
-        Checks.readFault(x, "way 0 5way", 7);
-        Checks.readFault(x, "way 0 5wax", 7);
-        Checks.readFault(x, "way 0\t5", 5);
+        fault("c", 1);
+        fault("ca", 1);
+        fault("cho", 2);
+        fault("COMER 1 1 1 1 1 1", 0);
+        fault("way 0 5;", 8);
+        fault("way 0 5;;way 0 5", 8);
+        fault("way 0 5; way 0 5", 8);
+        fault("way 0 5 ;way 0 5", 7);
+        fault("way 0 5 ", 7);
+        fault("way 0 5way", 7);
+        fault("way 0 5wax", 7);
+        fault("way 0\t5", 5);
+        FourAskOne x = new FourAskOne();
         x.row(7, 0, 3);
         due("19: elements 0", x.house(7), -6);
         due("19: elements 0", x.fault(), 0);
     }
 
     private static void promise19Numbers() {
-        FourAskOne x = Checks.smallHouse();
         String comer = "comer 1 2 3 4 1 6";
         for (int n = 6; n < comer.length(); n++) {
-            Checks.readFault(x, comer.substring(0, n), n);
+            fault(comer.substring(0, n), n);
             boolean digit = n % 2 == 0;
             String behind = comer.substring(n + 1);
-            Checks.readFault(x, comer.substring(0, n) + "x" + behind, n);
-            Checks.readFault(x, comer.substring(0, n) + (digit ? "10" : " ;") + behind, digit ? n : n + 1);
+            fault(comer.substring(0, n) + "x" + behind, n);
+            fault(comer.substring(0, n) + (digit ? "10" : " ;") + behind, digit ? n : n + 1);
         }
-        Checks.readFault(x, "comer 1 2 3 4 4 6", 14);
-        Checks.readFault(x, "comer 1 2 3 4 1 10", 16);
-        Checks.readFault(x, "comer 100", 6);
-        Checks.readFault(x, "comer 010", 8);
-        Checks.readFault(x, "asker 4", 6);
-        Checks.readFault(x, "asker 3 10", 8);
-        Checks.readFault(x, "asker 3 9 11", 10);
-        Checks.readFault(x, "asker 3 9 100", 12);
-        Checks.readFault(x, "asker 3 9 10 1", 12);
-        Checks.readFault(x, "way 7", 4);
-        Checks.readFault(x, "way 10", 4);
-        Checks.readFault(x, "way 6 100", 8);
-        Checks.readFault(x, "way 6 -1", 6);
-        Checks.readFault(x, "chief 3", 6);
-        Checks.readFault(x, "chief 03", 6);
-        Checks.readFault(x, "chief 20", 6);
-        Checks.readFault(x, "chief 0 1", 7);
-        Checks.readFault(x, "asker 0 0 0;chief 4;asker 0 0 0", 18);
+        fault("comer 1 2 3 4 4 6", 14);
+        fault("comer 1 2 3 4 1 10", 16);
+        fault("comer 100", 6);
+        fault("comer 010", 8);
+        fault("asker 4", 6);
+        fault("asker 3 10", 8);
+        fault("asker 3 9 11", 10);
+        fault("asker 3 9 100", 12);
+        fault("asker 3 9 10 1", 12);
+        fault("way 7", 4);
+        fault("way 10", 4);
+        fault("way 6 100", 8);
+        fault("way 6 -1", 6);
+        fault("chief 3", 6);
+        fault("chief 03", 6);
+        fault("chief 20", 6);
+        fault("chief 0 1", 7);
+        fault("asker 0 0 0;chief 4;asker 0 0 0", 18);
+        FourAskOne x = withAskers();
         Checks.read(x, "asker 0 0 10;chief 03", 2);
         FourAskOne empty = new FourAskOne();
         Checks.readFault(empty, "chief 0", 6);

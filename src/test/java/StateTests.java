@@ -10,6 +10,7 @@ public final class StateTests {
         promise44();
         promise45();
         promise46();
+        promise46Again();
         promise46Shelves();
         promise47();
         promise47Refusals();
@@ -196,11 +197,8 @@ public final class StateTests {
         Checks.refused(x, 0, 0, 0, 0, 0, 1, 0);
         x.image();
         due("46: of nothing", x.restore(), 0);
-        x = Checks.smallHouse();
-        x.chief(1);
-        x.seed(4711);
+        x = imaged();
         String was = Checks.seen(x);
-        x.image();
         x.change(0, 0, 9);
         x.change(2, 5, 9);
         x.come(2);
@@ -210,14 +208,26 @@ public final class StateTests {
         x.way(6, 6);
         due("46", x.restore(), 7);
         Checks.same("46: all is as it was", Checks.seen(x), was);
+        due("46: numbers go on", x.way(4, 4), 7);
+    }
+
+    private static FourAskOne imaged() {
+        FourAskOne x = Checks.smallHouse();
+        x.chief(1);
+        x.seed(4711);
+        x.image();
+        return x;
+    }
+
+    private static void promise46Again() {
+        FourAskOne x = imaged();
+        String was = Checks.seen(x);
         x.clear();
         x.change(0, 0, 9);
         due("46: again", x.restore(), 7);
-        Checks.same("46: all is as it was", Checks.seen(x), was);
         Checks.read(x, "comer 1 1 1 1 1 1;asker 1 1 1;way 1 1;chief 3", 4);
         due("46: again", x.restore(), 7);
         Checks.same("46: all is as it was", Checks.seen(x), was);
-        due("46: numbers go on", x.way(4, 4), 7);
         due("46: refusals are kept", x.status(11), 1);
     }
 
