@@ -1,4 +1,4 @@
-/** The words of each promise that name a boundary case: a test of its own for each. RefusalTests has the refused calls. */
+/** The words of each promise that name a boundary case: a test of its own for each. Refused calls: RefusalTests. */
 public final class EdgeTests {
     private static final int NONE = FourAskOne.NONE;
     private static final int LEAST = Integer.MIN_VALUE;
@@ -31,6 +31,7 @@ public final class EdgeTests {
         promise25();
         promise26();
         promise27();
+        bySlips();
         promises28And29();
         promise30();
         promise31();
@@ -39,6 +40,8 @@ public final class EdgeTests {
         promise34();
         promise35();
         promises36And37();
+        fullHouse();
+        fullHouseSays();
         promise38();
         promise39();
         promise40();
@@ -113,6 +116,7 @@ public final class EdgeTests {
         x.show(7, 0);
         due("in place of a WAY", x.row(7, 1, 1), 1);
         due("its SORT", x.holds(7), 101);
+        due("no WAY any more", x.copy(7, 7, 0, 0, 1), 1);
     }
 
     private static void promise3() {
@@ -191,14 +195,15 @@ public final class EdgeTests {
         x.way(6, 99);
         Checks.row(x, 0, 3, 5, 6);
         x.show(1, 0);
-        long[][] asked = {{0, 0, 5}, {0, 1, 6}, {0, 2, 0}, {0, -1, 0}, {0, MOST, 0}, {0, LEAST, 0}, {1, 0, 0}, {2, 0, 0},
-            {8, 0, 0}, {-1, 0, 0}, {MOST, MOST, 0}, {LEAST, LEAST, 0}};
+        long[][] asked = {{0, 0, 5}, {0, 1, 6}, {0, 2, 0}, {0, -1, 0}, {0, MOST, 0}, {0, LEAST, 0}, {1, 0, 0},
+            {2, 0, 0}, {8, 0, 0}, {-1, 0, 0}, {MOST, MOST, 0}, {LEAST, LEAST, 0}};
         for (long[] a : asked) {
             due("element " + a[1] + " of " + a[0], x.element((int) a[0], (int) a[1]), a[2]);
         }
         Checks.refused(x, 0, 0, 0, 0, 0, 0, 0);
         x.row(0, 3, 1);
         due("of a less ROW than before", x.element(0, 1), 0);
+        x.set(0, 0, 7);
         x.show(0, 0);
         due("of a WAY where a ROW was", x.element(0, 0), 0);
     }
@@ -308,12 +313,12 @@ public final class EdgeTests {
         due("one COMER", x.says(0, 6), 0);
         Checks.comer(x, 0, 0, 0, 0, 1, 2);
         due("no ASKERS", x.says(0, 6), 0);
-        x.asker(1, 3, 0);
-        due("90 and 60 with a BONUS of 30: the first as before", x.says(0, 6), 0);
+        x.asker(1, 4, 0);
+        due("90, and 60 with a BONUS of 40", x.says(0, 6), 1);
+        x.asker(1, 2, 10);
+        due("180, and 120 with BONUSES of 60 by slips: the first as before", x.says(0, 6), 0);
         x.asker(1, 4, 10);
-        due("180 and 120 with BONUSES of 70 by slips", x.says(0, 6), 1);
-        x.drawn(1, 0);
-        due("the same, DRAWN 0", x.says(0, 6), 1);
+        due("270, and 180 with BONUSES of 100 by slips", x.says(0, 6), 1);
         x.change(1, 4, 2);
         due("nobody likes them", x.says(0, 6), 0);
     }
@@ -547,18 +552,47 @@ public final class EdgeTests {
         FourAskOne x = new FourAskOne();
         due("no WAYS", x.head(), -5);
         for (int n = 0; n < 8; n++) {
-            x.way(n < 7 ? 0 : 5, 0);
+            x.way(n < 6 ? 0 : 5, 0);
         }
         due("no COMERS: the first", x.head(), 0);
         Checks.comer(x, 1, 0, 0, 9, 0, 0);
         Checks.comer(x, 2, 0, 0, 0, 0, 9);
         due("no ASKERS: the first", x.head(), 0);
         x.asker(3, 0, 0);
-        due("all but the last below 0", x.head(), 7);
+        due("all but the last two below 0", x.head(), 6);
         x.change(1, 5, 0);
         x.change(0, 5, 1);
         due("all below 0: the first", x.head(), 0);
         Checks.refused(x, 0, 0, 0, 0, 1, 0, 0);
+        due("by SLIPS alike", drawnHouse().head(), 0);
+    }
+
+    /** SUMS 9 and 0. WAY 0: by SLIPS alike, in ORDER the second has more. WAY 1: all alike. */
+    private static FourAskOne drawnHouse() {
+        FourAskOne x = new FourAskOne();
+        Checks.comer(x, 9, 0, 0, 5, 0, 0);
+        Checks.comer(x, 0, 0, 0, 5, 1, 0);
+        x.asker(1, 9, 0);
+        x.asker(0, 9, 10);
+        x.way(0, 0);
+        x.way(4, 0);
+        return x;
+    }
+
+    private static void bySlips() {
+        FourAskOne x = drawnHouse();
+        says(25, "TELLS of a WAY");
+        due("by SLIPS alike", x.tells(0, true), 0);
+        due("in ORDER", x.tells(0, false), -1);
+        says(26, "RIGHTED of a WAY by SLIPS.");
+        due("by SLIPS alike", x.righted(0, 2), 0);
+        says(28, "JOINED with x tenths TELLS.");
+        due("by SLIPS alike", x.joined(0, 1, 10), 0);
+        due("by SLIPS alike", x.joined(1, 0, 0), 0);
+        Checks.sentence("Terms", "of the greatest TOTALS (by SLIPS; of several the first)");
+        due("by SLIPS alike: the first", x.lost(0, 1), 0);
+        Checks.sentence("Terms", "TURNED: COMERS (bits) who would be TAKEN (by SLIPS) if one ASKER were away");
+        due("each once", x.turned(0), 3);
     }
 
     private static void promises28And29() {
@@ -686,6 +720,63 @@ public final class EdgeTests {
         due("none", x.lets(0), -6);
         due("nine", x.lets(9), -6);
         Checks.refused(x, 0, 0, 0, 0, 0, 7, 0);
+    }
+
+    /** Eight COMERS: SUMS and LOOKS as their numbers, MARKS 7 less those; four ASKERS without BONUS; eight WAYS. */
+    private static FourAskOne eightFourAndEight() {
+        FourAskOne x = new FourAskOne();
+        for (int n = 0; n < 8; n++) {
+            Checks.comer(x, n, 0, 0, n, 0, 7 - n);
+            x.way(n % 7, 10);
+        }
+        for (int n = 0; n < 4; n++) {
+            x.asker(1, 9, 5);
+        }
+        return x;
+    }
+
+    /** What comes of a house in which there is no room for one more of any. */
+    private static void fullHouse() {
+        Checks.sentence("Terms", "==== 3. WHAT COMES OF IT");
+        FourAskOne x = eightFourAndEight();
+        int[][] asked = {{0, 7, 28, 0, 128}, {5, 0, -28, 7, 1}, {7, 7, 28, 0, 128}};
+        for (int[] a : asked) {
+            due("TAKEN by slips by " + a[0], x.taken(a[0], true), a[1]);
+            due("TAKEN in ORDER by " + a[0], x.taken(a[0], false), a[1]);
+            due("TELLS by slips of " + a[0], x.tells(a[0], true), a[2]);
+            due("TELLS in ORDER of " + a[0], x.tells(a[0], false), a[2]);
+            due("RIGHTED of " + a[0], x.righted(a[0], 8), a[2]);
+            due("WRONG by slips by " + a[0], x.wrong(a[0], true), a[3]);
+            due("WRONG in ORDER by " + a[0], x.wrong(a[0], false), a[3]);
+            due("LOST by " + a[0], x.lost(a[0], 8), 28);
+            due("TURNED by " + a[0], x.turned(a[0]), a[4]);
+            due("AGREE by " + a[0], x.agree(a[0]), 4);
+        }
+        due("BEST", x.best(), 7);
+        due("head", x.head(), 0);
+        due("JOINED", x.joined(7, 5, 5), 0);
+        due("weights", x.weights(7, 5), 6);
+        due("PIECE", x.piece(), 0);
+        due("TOTAL", x.total(7, false, 7), 840);
+        due("HEADS of the last", x.heads(3), 5000);
+        Checks.row(x, 0, 0, 7, 6, 5, 4, 3, 2, 1, 0);
+        due("a told RANKING may be", x.judge(0), NONE);
+        due("a told RANKING", x.told(0), 28);
+    }
+
+    private static void fullHouseSays() {
+        says(8, "What the WAY in SHELF s, taken for one of a KIND, says");
+        FourAskOne x = eightFourAndEight();
+        int[] own = {10, 10, 5, 1, 8, 0, 0, 10};
+        for (int way = 0; way < 8; way++) {
+            x.show(7, way);
+            due("WAY " + way, x.says(7, way % 7), own[way]);
+        }
+        x.show(7, 6);
+        x.change(7, 4, 1);
+        due("names: 840, and 0 with BONUSES of 360", x.says(7, 6), 0);
+        x.change(7, 5, 5);
+        due("names: 840, and 600 with BONUSES of 360", x.says(7, 6), 1);
     }
 
     private static int judged(FourAskOne x, long... ranking) {
@@ -820,7 +911,8 @@ public final class EdgeTests {
     }
 
     private static void promise45() {
-        says(45, "THE IMAGE of all but SHELVES (and THE IMAGE, REFUSALS, the FAULT, THE TRACE) is taken: how many WAYS.");
+        says(45, "THE IMAGE of all but SHELVES (and THE IMAGE, REFUSALS, the FAULT, THE TRACE) is taken: "
+            + "how many WAYS.");
         FourAskOne x = new FourAskOne();
         due("of nothing", x.image(), 0);
         x.way(0, 0);
@@ -887,15 +979,17 @@ public final class EdgeTests {
         x.way(0, 5);
         x.image();
         x.way(1, 6);
-        x.show(0, 0);
+        x.show(0, 1);
+        x.show(6, 0);
         x.show(7, 1);
         x.row(1, 2, 160);
         due("WAYS", x.restore(), 1);
-        due("the last that is there", x.holds(0), 0);
+        due("behind the last", x.holds(0), NONE);
+        due("the last that is there", x.holds(6), 0);
         due("behind the last", x.holds(7), NONE);
         due("a ROW", x.holds(1), 102);
         due("NOTHING", x.holds(2), NONE);
-        due("it says its a", x.says(0, 0), 5);
+        due("it says its a", x.says(6, 0), 5);
         due("NOTHING says nothing", x.says(7, 0), -3);
         x.way(3, 8);
         due("NOTHING still", x.holds(7), NONE);

@@ -390,6 +390,7 @@ public final class TermsTests {
             }
         }
         Checks.readFault(x, "way 0 x;way 0 y", 6);
+        Checks.readFault(x, "way 0 5wax", 7);
         Checks.readFault(x, "cay 0 0", 1);
         Checks.readFault(x, "chier 0", 4);
         Checks.readFault(x, "commer", 3);
@@ -707,6 +708,11 @@ public final class TermsTests {
         due("only 10: 9 times 10 less x below x", x.weights(0, 1), 10);
         x.change(0, 5, 8);
         due("9 and 10: 8 times 10 less x below x", x.weights(0, 1), 9);
+        x.change(0, 5, 0);
+        due("all but 0: MARKS alike", x.weights(0, 1), 1);
+        x.change(0, 5, 9);
+        x.change(1, 3, 0);
+        due("only 10 is not below 0: LOOKS alike", x.weights(0, 1), 10);
     }
 
     private static void headsAre(FourAskOne x, int... heads) {
@@ -812,8 +818,8 @@ public final class TermsTests {
 
     private static void piece() {
         terms("PIECE: the LINE (0 to 2) that TELLS most, of several the first");
-        int[][][] lines = {{{0, 0, 0}, {1, 1, 1}}, {{9, 0, 0}, {0, 9, 1}}, {{9, 0, 0}, {0, 9, 9}}, {{9, 0, 0}, {0, 0, 9}},
-            {{5, 5, 0}, {4, 4, 9}}, {{9, 0, 0}, {9, 0, 0}}};
+        int[][][] lines = {{{0, 0, 0}, {1, 1, 1}}, {{9, 0, 0}, {0, 9, 1}}, {{9, 0, 0}, {0, 9, 9}},
+            {{9, 0, 0}, {0, 0, 9}}, {{5, 5, 0}, {4, 4, 9}}, {{9, 0, 0}, {9, 0, 0}}};
         int[] pieces = {0, 1, 1, 0, 2, 0};
         for (int i = 0; i < pieces.length; i++) {
             FourAskOne x = new FourAskOne();
@@ -823,6 +829,11 @@ public final class TermsTests {
             due("PIECE " + i, x.piece(), pieces[i]);
         }
         due("no COMERS", new FourAskOne().piece(), 0);
+        FourAskOne x = new FourAskOne();
+        Checks.comer(x, 3, 0, 0, 1, 0, 1);
+        Checks.comer(x, 0, 4, 0, 2, 0, 2);
+        Checks.comer(x, 0, 0, 5, 3, 0, 3);
+        due("LINES tell -2, 0, 2; LOOKS and MARKS, that tell 3, are no LINES", x.piece(), 2);
     }
 
     private static final int[][] COMES = {{1}, {1, 1}, {2, 3, 2}, {6, 11, 10, 6}, {24, 50, 52, 42, 24},
@@ -992,6 +1003,10 @@ public final class TermsTests {
         due("MARKED feels: times 2", x.act(5, 0, MOST), 8);
         due("BLIND asks: x less a", x.act(6, 1, LEAST), -372);
         due("BLIND sums", x.act(6, 2, LEAST), (-372 ^ -186) ^ 5);
+        FourAskOne y = new FourAskOne();
+        y.way(6, 3);
+        due("BLIND sums, 4 and 2 and 5", y.act(0, 2, 4), 3);
+        due("BLIND sums, -8 and -4 and 5", y.act(0, 2, 1), 1);
     }
 
     private static void nextKindAbove() {
